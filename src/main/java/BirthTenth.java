@@ -439,7 +439,7 @@ public final class BirthTenth {
         if (!isPerson(person)) {
             return 0;
         }
-        acts.begin(person, now.kind[person], now.v[person]);
+        acts.becomes(person, now.kind[person], now.v[person]);
         switch (act) {
             case 0: return acts.sells(acts.kind, x);
             case 1: return acts.gives(acts.kind, x);
@@ -720,7 +720,6 @@ public final class BirthTenth {
             due = itsDue;
             date = from.date;
             year = from.year;
-            dues = 0;
             for (int d = 0; d < DAYS; d++) {
                 births[d] = 0;
             }
@@ -1052,8 +1051,7 @@ public final class BirthTenth {
         private int number;
         private int v;
 
-        void begin(int itsNumber, int itsKind, int itsV) {
-            ran = 0;
+        void becomes(int itsNumber, int itsKind, int itsV) {
             number = itsNumber;
             kind = itsKind;
             v = itsV;

@@ -1,14 +1,24 @@
+import java.util.HashSet;
+import java.util.Set;
+
 /** Counts answers that are not the ones that are due, and tells each. */
 final class Check {
     private int wrong;
     private int asked;
+    private final Set<String> promises = new HashSet<>();
 
     void due(String call, long got, long want) {
         asked++;
+        promises.add(call.substring(0, Math.max(0, call.indexOf(' '))));
         if (got != want) {
             wrong++;
             System.out.println(call + " answered " + got + ", due is " + want);
         }
+    }
+
+    /** Whether an answer has been looked at whose call is told with that promise's number ahead. */
+    boolean has(int promise) {
+        return promises.contains(String.valueOf(promise));
     }
 
     /** Ends the program with exit code 1 if an answer was wrong. */

@@ -305,6 +305,7 @@ public final class PromisesTest {
             {"p=1|k=0&d=0", 1}, {"(p=1|k=0)&d=0", 0}, {"d=0&k=0|p=1", 1}, {"d=0&(k=0|p=1)", 0},
             {"!p=1&k=0", 0}, {"!(p=1&k=0)", 1}, {"!p=1|k=2", 1}, {"!(p=1|k=2)", 0}, {"p=0|k=0|d=3", 1},
             {"p=1&k=2&d=0", 0}, {"p=0|k=2&d=3|c=0", 1}, {"p=0|k=2&d=0|c=0", 0}, {"p=1|k=2|d=3", 1},
+            {"p=1|k=0|d=0", 1}, {"p=0|k=2|d=0", 1}, {"p=0|k=0|d=0|c=0", 0}, {"p=1|k=0&d=0|c=0", 1},
             {"p=1&!(k=0|!(d=3&c=3))", 1}, {"p=0&k=0|d=3&c=3", 1}, {"p=0&k=0|d=3&c=0", 0},
         };
         for (Object[] row : rows) {
@@ -447,12 +448,24 @@ public final class PromisesTest {
     /** The end of YEAR 999 lies behind the 512th call; what is free there still shows that nothing breaks. */
     private static void lastDayOfYear() {
         BirthTenth x = new BirthTenth();
-        for (int i = 0; i < 11999; i++) {
+        x.person(0, 0, 3, 11);
+        x.person(0, 0, 11, 0);
+        for (int i = 0; i < 998 * 12 + 11; i++) {
             x.day();
         }
+        due("10 day 11 of year 998", x.told(4) * 100 + x.told(3), 99811);
+        due("10 day 11 of year 998 goes", x.day(), 10);
+        for (int i = 0; i < 10; i++) {
+            due("10 day " + i + " of year 999 goes", x.day(), 0);
+        }
+        due("10 day 10 of year 999 goes", x.day(), 0);
         due("10 year 999", x.told(4) * 100 + x.told(3), 99911);
+        due("10 purse of the first", x.of(0, 8), 999 * 90);
+        due("10 purse of the second", x.of(1, 8), 1000 * 100 + 999 * 10);
         due("10 no further", x.day(), -3);
         due("10 still", x.told(4) * 100 + x.told(3), 99911);
+        due("10 purses stay", x.told(5), 999 * 90 + 1000 * 100 + 999 * 10);
+        due("11 goes on all the same", x.by(0, 60, 0), 999 * 90 + 5 * 90);
     }
 
     private static BirthTenth three() {

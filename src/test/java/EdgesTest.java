@@ -161,6 +161,8 @@ public final class EdgesTest {
     private static void sellingDays() {
         runs("T hater shuns oneself too", "person(1, 0, 4, 4)", "of(0, 5) = 5", "there(0, false)", "of(0, 5) = 5", "set(0, 1, 3)", "of(0, 5) = 3");
         runs("T hater goes round", "person(1, 0, 11, 11)", "of(0, 5) = 0", "of(0, 6) = 1", "set(0, 0, 0)", "of(0, 5) = 11");
+        runs("T hater minds no crowd", "person(0, 0, 3, 0)", "person(0, 0, 3, 0)", "person(0, 0, 3, 0)", "person(0, 0, 3, 0)", "person(0, 0, 3, 0)",
+            "person(1, 6, 3, 3)", "person(0, 0, 4, 0)", "of(5, 5) = 3", "set(6, 0, 3)", "of(5, 5) = 4");
         runs("T late, modulo 12", "person(3, 0, 0, 11)", "of(0, 5) = 11", "person(3, 1, 0, 11)", "of(1, 5) = 0", "person(3, 9, 0, 11)",
             "of(2, 5) = 8", "of(2, 6) = 9", "person(3, 9, 0, 2)", "of(3, 5) = 11", "set(3, 1, 3)", "of(3, 5) = 0");
         runs("T that one, modulo 7", "person(0, 0, 0, 0)", "person(0, 0, 1, 0)", "person(0, 0, 2, 0)", "person(2, 9, 3, 0)",
@@ -236,6 +238,13 @@ public final class EdgesTest {
         keeps("8 full: the text stays", new String[][] {FULL}, "town() = FULL");
         runs("8 the text is empty then", "text(due 7) = 5", "town() = 0", "count(3) = 0", "town() = -10", "told(0) = 7", "count(1) = 1");
         runs("8 the text is empty behind a fault", "text(due 7)", "town()", "text(due 8;)", "town() = -16", "count(3) = 0", "told(0) = 7", "count(1) = 1");
+        runs("8 nothing is left of take clauses ahead of a fault", "person(0, 0, 0, 0)", "text(take 1 p=0;take 5 p=0;take 7 p=0;)", "town() = -43",
+            "text(take 1 p=0)", "town() = 0", "of(0, 7) = 10");
+        BirthTenth x = Calls.made("person(0, 0, 0, 0)");
+        for (int i = 0; i < 4; i++) {
+            Calls.run(check, "8 fault upon fault", x, "text(take 1 " + "p=1&".repeat(23) + ")", "town() = -109");
+        }
+        Calls.run(check, "8 behind fault upon fault", x, "text(take 1 p=0|" + "p=1&".repeat(20) + "p=1)", "town() = 0", "of(0, 7) = 10");
         runs("8 six", "text(due 0)", "town() = 0", "text(due 1)", "town() = 1", "text(due 2)", "town() = 2", "text(due 3)", "town() = 3",
             "text(due 4)", "town() = 4", "text(x)", "town() = -10", "text(due 5)", "town() = 5", "told(0) = 5", "text(due 6)", "town() = FULL",
             "told(0) = 5", "count(1) = 6", "count(3) = 5");

@@ -440,12 +440,7 @@ public final class BirthTenth {
             return 0;
         }
         acts.becomes(person, now.kind[person], now.v[person]);
-        switch (act) {
-            case 0: return acts.sells(acts.kind, x);
-            case 1: return acts.gives(acts.kind, x);
-            case 2: return acts.tells(acts.kind, x);
-            default: return 0;
-        }
+        return acts.answer(act, x);
     }
 
     public int trace(int i) {
@@ -1043,11 +1038,14 @@ public final class BirthTenth {
         }
     }
 
-    /** The ACTS of one of the PEOPLE; each takes the KIND from which on a body is looked for. */
+    /**
+     * The ACTS of one of the PEOPLE; each takes the KIND from which on a body is looked for. They end: a body asks for the
+     * same ACT of a KIND above alone, or for one that lies nearer to sells (tells, gives, sells).
+     */
     private static final class Acts {
         final int[] bodies = new int[TRACE_MOST];
         int ran;
-        int kind;
+        private int kind;
         private int number;
         private int v;
 
@@ -1057,6 +1055,15 @@ public final class BirthTenth {
             v = itsV;
         }
 
+        int answer(int act, int x) {
+            switch (act) {
+                case 0: return sells(kind, x);
+                case 1: return gives(kind, x);
+                case 2: return tells(kind, x);
+                default: return 0;
+            }
+        }
+
         private void runs(int body) {
             if (ran < TRACE_MOST) {
                 bodies[ran] = body;
@@ -1064,7 +1071,7 @@ public final class BirthTenth {
             ran++;
         }
 
-        int sells(int from, int x) {
+        private int sells(int from, int x) {
             switch (from) {
                 case TOLD:
                     runs(71);
@@ -1082,7 +1089,7 @@ public final class BirthTenth {
             }
         }
 
-        int gives(int from, int x) {
+        private int gives(int from, int x) {
             switch (from) {
                 case TOLD:
                     runs(70);
@@ -1099,7 +1106,7 @@ public final class BirthTenth {
             }
         }
 
-        int tells(int from, int x) {
+        private int tells(int from, int x) {
             switch (from) {
                 case TOLD:
                 case LATE:

@@ -1,6 +1,7 @@
 import java.io.IOException;
 import java.nio.file.Files;
 import java.nio.file.Path;
+import java.util.Arrays;
 import java.util.regex.Matcher;
 import java.util.regex.Pattern;
 
@@ -15,6 +16,31 @@ public final class LanguageTest {
             n++;
         }
         return n;
+    }
+
+    /** Of each method: how long it is, whether one that calls itself is private, and that it makes no object. */
+    private static void methods(String source) {
+        String[] lines = source.split("\n");
+        Pattern header = Pattern.compile("( +)((?:private |public |static )*)[\\w\\[\\]]+ (\\w+)\\([^;]*\\) \\{");
+        int methods = 0;
+        for (int from = 0; from < lines.length; from++) {
+            Matcher matcher = header.matcher(lines[from]);
+            if (!matcher.matches() || lines[from].trim().matches("(else if|public BirthTenth)\\b.*")) {
+                continue;
+            }
+            int to = from + 1;
+            while (!lines[to].equals(matcher.group(1) + "}")) {
+                to++;
+            }
+            String name = matcher.group(3);
+            String body = String.join("\n", Arrays.copyOfRange(lines, from + 1, to));
+            boolean callsItself = count(body, "(?<![\\w.])" + name + "\\(") > 0;
+            check.due("11 more than sixty lines of " + name, to - from > 60 ? 1 : 0, 0);
+            check.due("8 calls itself and is not private: " + name, callsItself && !matcher.group(2).contains("private") ? 1 : 0, 0);
+            check.due("12 objects that are made by " + name, count(body, "\\bnew "), 0);
+            methods++;
+        }
+        check.due("methods that were looked at, at least the face's", methods >= 36 ? 1 : 0, 1);
     }
 
     public static void main(String[] args) throws IOException {
@@ -34,16 +60,7 @@ public final class LanguageTest {
         check.due("1 public members", count(code, "\\bpublic "), 1 + 2 + 1 + 36);
         check.due("11 at most twelve classes", count(code, "\\bclass \\w+") <= 12 ? 0 : 1, 0);
         check.due("11 at most seven parameters", count(code, "\\((\\w+(\\[\\])? \\w+, ){7}"), 0);
-        int from = 0;
-        String[] lines = source.split("\n");
-        for (int i = 0; i < lines.length; i++) {
-            if (lines[i].matches("( {4}| {8})\\S.*\\) \\{")) {
-                from = i;
-            }
-            if (lines[i].matches("( {4}| {8})\\}")) {
-                check.due("11 lines of what ends in line " + (i + 1), i - from > 60 && lines[i].startsWith("        ") ? 1 : 0, 0);
-            }
-        }
+        methods(source);
         Matcher face = Pattern.compile("\\bpublic \\w+ (\\w+)\\(").matcher(code);
         while (face.find()) {
             String name = face.group(1);

@@ -15,7 +15,7 @@ public final class BirthTenth {
     private static final int FAR_NONE = -10000001, FAR_BAD = -10000002;
 
     private static final int DAYS = 12, PEOPLE = 7, KINDS = 7, VALUES = 10, PARTS = 4;
-    private static final int LAST_YEAR = 999, FARTHEST = 60, ROUNDS = 8, DUES_END = 100, DUES_STEP = 5;
+    private static final int LAST_YEAR = 999, FARTHEST = 60, MOST_CHANGES = 8, DUES_END = 100, DUES_STEP = 5;
     private static final int MOST_FORGED = 10000, MOST_SLIP = 99;
     private static final int TEXT_MOST = 100, SIGNS = 128, TOWNS = 6, CLAUSES = 10, WITHIN = 4;
     private static final int BOOK_MOST = 12, ROW_MOST = 9999, BOOK_EMPTIED = -10000;
@@ -281,7 +281,8 @@ public final class BirthTenth {
         int changes = 0;
         boolean isQuiet = false;
         trial.copy(now);
-        for (int round = 0; round < ROUNDS && !isQuiet; round++) {
+        // Each round ahead of the quiet one has a change, so there are no more rounds than that.
+        for (int round = 0; round <= MOST_CHANGES && !isQuiet; round++) {
             isQuiet = true;
             for (int p = 0; p < trial.count; p++) {
                 int better = trial.here[p] ? betterPlan(p, trial.town.due) : trial.plan[p];
@@ -292,7 +293,7 @@ public final class BirthTenth {
                 }
             }
         }
-        if (!isQuiet) {
+        if (changes > MOST_CHANGES) {
             return NOT_ANY;
         }
         return what == 0 ? changes : trial.plan[what - 10];

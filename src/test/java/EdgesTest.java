@@ -391,12 +391,18 @@ public final class EdgesTest {
         keeps("19 asked", new String[][] {SOME}, "rest(0) = 2", "rest(10) = 0", "rest(11) = 4", "rest(12) = 2", "rest(13) = NONE");
         runs("19 the seventh", "person(0, 0, 3, 5)", "person(0, 0, 3, 5)", "person(0, 0, 3, 5)", "person(0, 0, 3, 5)", "person(0, 0, 3, 5)",
             "person(0, 0, 3, 5)", "person(0, 0, 3, 9)", "rest(0) = 0", "rest(16) = 9");
-        runs("19 the eighth round is the first in which nobody changes", "text(take 1 d<2;take 2 c=3;due 30;cost 2)", "town() = 0",
+        String[] nine = {"text(take 2 d=0;take 2 d=9)", "town()", "person(0, 0, 9, 0)", "person(0, 0, 9, 0)", "person(0, 0, 0, 1)",
+            "person(0, 0, 9, 0)", "person(0, 0, 9, 1)"};
+        keeps("19 nine changes", new String[][] {nine}, "rest(0) = -5", "rest(10) = -5", "rest(14) = -5", "rest(15) = NONE");
+        String[] eight = {"text(take 6 d=0;take 5 d=2;take 5 d=1;due 20;cost 1)", "town()", "person(0, 6, 0, 7)", "person(0, 2, 0, 2)",
+            "person(0, 9, 0, 2)", "person(0, 4, 0, 2)", "person(3, 3, 0, 0)"};
+        keeps("19 eight changes, at rest in the sixth round", new String[][] {eight}, "rest(0) = 8", "rest(10) = 1", "rest(11) = 0",
+            "rest(12) = 0", "rest(13) = 0", "rest(14) = 9", "rest(15) = NONE");
+        runs("19 three that changed before are not counted", "text(take 2 d=0;take 2 d=9)", "town()", "person(0, 0, 9, 9)",
+            "person(0, 0, 9, 0)", "person(0, 0, 0, 0)", "person(0, 0, 9, 0)", "person(0, 0, 9, 0)", "rest(0) = 6", "rest(10) = 0", "rest(14) = 9");
+        runs("19 eighteen changes, at rest in the eighth round", "text(take 1 d<2;take 2 c=3;due 30;cost 2)", "town() = 0",
             "person(0, 1, 1, 6)", "person(0, 8, 0, 1)", "person(0, 1, 1, 11)", "person(0, 8, 1, 3)", "person(0, 7, 1, 3)", "person(0, 5, 1, 8)",
-            "person(0, 1, 1, 11)", "rest(0) = 18", "rest(10) = 0", "rest(11) = 0", "rest(12) = 1", "rest(16) = 1");
-        runs("19 a ninth round is not looked at", "text(take 1 d<2;take 0 c=3;due 16;cost 2)", "town() = 0", "person(0, 4, 0, 11)",
-            "person(0, 3, 0, 1)", "person(0, 3, 0, 1)", "person(0, 9, 1, 0)", "person(3, 7, 1, 5)", "person(2, 6, 2, 6)", "person(0, 4, 1, 0)",
-            "rest(0) = -5", "rest(10) = -5", "rest(16) = -5", "rest(17) = NONE");
+            "person(0, 1, 1, 11)", "rest(0) = -5", "rest(10) = -5", "rest(16) = -5", "rest(17) = NONE");
     }
 
     private static void reckoning() {

@@ -256,22 +256,20 @@ final class Model {
         return -5;
     }
 
-    /** How many change; the plans are left as they are then. */
+    /** How many change (-5: more than 8 would); the plans are left as they are then. */
     int settle() {
         int changes = 0;
-        for (int round = 0; round < 8; round++) {
-            int before = changes;
+        int before = -1;
+        while (changes != before && changes <= 8) {
+            before = changes;
             for (One one : people) {
                 if (one.here && changes(one.number)) {
                     one.plan = bestPlan(one.number);
                     changes++;
                 }
             }
-            if (changes == before) {
-                return changes;
-            }
         }
-        return -5;
+        return changes <= 8 ? changes : -5;
     }
 
     int reckoning(int n) {

@@ -159,7 +159,40 @@ public final class ModelTest {
         }
     }
 
+    /** Towns in which odd pennies make PEOPLE change over and over; such are too rare to come by chance. */
+    private static void settle(String town, int[][] people, int due) {
+        BirthTenth x = new BirthTenth();
+        Model model = new Model();
+        Check.town(x, town);
+        model.town = town;
+        for (int[] one : people) {
+            x.person(one[0], one[1], one[2], one[3]);
+            model.add(one[0], one[1], one[2], one[3]);
+        }
+        int changes = model.settle();
+        check.due("rest of the model in " + town, changes, due);
+        check.due("rest in " + town, x.rest(0), changes);
+        for (Model.One one : model.people) {
+            check.due("rest " + one.number + " in " + town, x.rest(10 + one.number), changes < 0 ? -5 : one.plan);
+        }
+    }
+
+    private static void settleOverAndOver() {
+        settle("take 5 d<2;take 3 d<2;take 7 d=4;due 17;cost 0",
+            new int[][] {{5, 1, 0, 9}, {0, 9, 1, 7}, {0, 7, 1, 4}, {3, 4, 1, 2}, {0, 1, 0, 2}, {0, 4, 1, 9}}, 8);
+        settle("take 5 d<2;take 5 d<0;due 3;cost 1",
+            new int[][] {{0, 8, 0, 8}, {0, 6, 1, 1}, {0, 0, 1, 1}, {0, 2, 0, 1}, {0, 4, 0, 1}, {0, 4, 1, 11}}, 8);
+        settle("take 8 d<3;due 2;cost 2", new int[][] {{0, 5, 1, 11}, {0, 0, 1, 6}, {0, 0, 0, 4}, {0, 6, 0, 1}, {0, 5, 0, 0}}, 8);
+        settle("take 9 d<2;take 5 d=2;take 6 d=4;due 4;cost 0",
+            new int[][] {{0, 2, 0, 11}, {0, 7, 1, 6}, {0, 6, 1, 1}, {0, 4, 1, 6}, {0, 3, 1, 5}, {0, 8, 1, 10}}, -5);
+        settle("take 1 d<3;due 27;cost 1",
+            new int[][] {{3, 2, 2, 10}, {0, 7, 2, 0}, {2, 1, 0, 6}, {0, 4, 1, 10}, {0, 7, 2, 10}, {0, 1, 2, 1}, {0, 0, 2, 2}}, -5);
+        settle("take 2 d<4;take 8 d=3;take 6 d=1;due 26;cost 2",
+            new int[][] {{0, 3, 3, 3}, {0, 2, 0, 0}, {0, 3, 3, 1}, {5, 6, 0, 1}, {0, 6, 3, 4}, {0, 0, 3, 2}, {0, 6, 0, 5}}, -5);
+    }
+
     public static void main(String[] args) {
+        settleOverAndOver();
         for (int run = 0; run < 60; run++) {
             Random random = new Random(run);
             BirthTenth x = new BirthTenth();

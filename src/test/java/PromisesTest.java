@@ -646,6 +646,16 @@ public final class PromisesTest {
         due("18 gone", x.change(2), 0);
     }
 
+    /** A TOWN with its PEOPLE, each told by what person() takes. */
+    private static BirthTenth peopled(String town, int[][] people) {
+        BirthTenth x = new BirthTenth();
+        Check.town(x, town);
+        for (int[] one : people) {
+            x.person(one[0], one[1], one[2], one[3]);
+        }
+        return x;
+    }
+
     private static void rest() {
         BirthTenth x = new BirthTenth();
         due("19 nobody", x.rest(0), 0);
@@ -662,26 +672,21 @@ public final class PromisesTest {
         x.there(0, false);
         due("19 gone ones do not change", x.rest(0), 0);
         due("19 gone one's plan", x.rest(10), 5);
-        x = new BirthTenth();
         // Odd pennies: once the others have changed, the first does what it would not have done before.
-        Check.town(x, "take 6 d<3;due 3;cost 1");
-        x.person(0, 0, 0, 0);
-        x.person(5, 1, 0, 0);
-        x.person(0, 2, 0, 3);
+        x = peopled("take 6 d<3;due 3;cost 1", new int[][] {{0, 0, 0, 0}, {5, 1, 0, 0}, {0, 2, 0, 3}});
         due("19 again in the second round", x.rest(0), 3);
-        x = new BirthTenth();
-        Check.town(x, "take 2 d<4;take 8 d=3;take 6 d=1;due 26;cost 2");
-        int[][] people = {{0, 3, 3, 3}, {0, 2, 0, 0}, {0, 3, 3, 1}, {5, 6, 0, 1}, {0, 6, 3, 4}, {0, 0, 3, 2}, {0, 6, 0, 5}};
-        for (int[] one : people) {
-            x.person(one[0], one[1], one[2], one[3]);
-        }
-        due("19 at rest within 8 rounds, by more than 8 changes", x.rest(0), 11);
-        x = new BirthTenth();
-        Check.town(x, "take 4 d=3;take 4 d=0;due 4;cost 0");
-        people = new int[][] {{0, 2, 3, 1}, {0, 0, 3, 3}, {5, 0, 3, 0}, {0, 2, 0, 4}, {4, 6, 0, 0}, {0, 3, 0, 4}, {0, 0, 3, 1}};
-        for (int[] one : people) {
-            x.person(one[0], one[1], one[2], one[3]);
-        }
+        x = peopled("take 5 d<1;take 4 d=2;due 29;cost 2", new int[][] {{0, 1, 0, 1}, {0, 1, 0, 1}, {0, 6, 0, 0}, {0, 9, 0, 8}});
+        due("19 eight changes of four", x.rest(0), 8);
+        due("19 eight changes of four: the first one's plan", x.rest(10), 0);
+        due("19 eight changes of four: the last one's plan", x.rest(13), 2);
+        x = peopled("take 2 d=0;take 2 d=9", new int[][] {{0, 0, 9, 0}, {0, 0, 9, 0}, {0, 0, 0, 1}, {0, 0, 9, 0}, {0, 0, 9, 1}});
+        due("19 nine changes are more than 8", x.rest(0), -5);
+        due("19 nine changes: no plan then", x.rest(10), -5);
+        due("19 nine changes: nor of one that changes once", x.rest(12), -5);
+        due("19 nine changes: nobody", x.rest(15), -1);
+        due("19 nine changes: asked alone", x.of(0, 3), 0);
+        x = peopled("take 4 d=3;take 4 d=0;due 4;cost 0",
+            new int[][] {{0, 2, 3, 1}, {0, 0, 3, 3}, {5, 0, 3, 0}, {0, 2, 0, 4}, {4, 6, 0, 0}, {0, 3, 0, 4}, {0, 0, 3, 1}});
         due("19 never at rest", x.rest(0), -5);
         due("19 never at rest: no plan then", x.rest(16), -5);
         due("19 never at rest: nobody", x.rest(17), -1);
